@@ -444,9 +444,8 @@ public final class DanceWine {
             length = 0;
         }
 
-        /** Reads up to behind the ; that ends it: 0, or the kind of the fault at the token where it stops. */
+        /** Reads a clear law up to behind its ; : 0, or the kind of the fault at the token where it stops. */
         int build(Tokens tokens, int start) {
-            length = 0;
             waits = 0;
             depth = 0;
             at = start;

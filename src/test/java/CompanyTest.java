@@ -35,6 +35,11 @@ public final class CompanyTest {
                 + "guest q plain at 1 1 way 3 age 9;guest r plain at 7 1 way 0 age 0;"
                 + "guest s plain at 0 2 way 0 age 0;");
         CHECK.due("aslant is not next, nor is the other end", x.couples(0), 0);
+        StringBuilder six = new StringBuilder("hall 2 2;dance r rest;wine w glasses 0 of r 1;");
+        for (char c = 'a'; c < 'g'; c++) {
+            six.append("guest g").append(c).append(" plain at 1 0 way 0 age 0;");
+        }
+        CHECK.due("six in one cell", Check.cellar(six.toString()).couples(0), 15);
     }
 
     private static void quarrels() {

@@ -258,6 +258,48 @@ public final class PlainTest {
         for (int what = -1; what <= 10; what++) {
             due("count(" + what + ")", x.count(what), y.count(what));
         }
+        for (int n = 0; n < 10; n++) {
+            askExtremes();
+        }
+    }
+
+    private int any() {
+        int[] far = {Integer.MIN_VALUE, Integer.MAX_VALUE, -2, 6, 7, 8, 64, 1 << 16, -(1 << 29), 1 << 29, 1 << 28};
+        return below(3) == 0 ? far[below(far.length)] : below(3) - 1;
+    }
+
+    /** Each call with some arguments that lie far outside. */
+    private void askExtremes() {
+        int a = any();
+        int b = any();
+        int c = any();
+        int d = any();
+        int e = any();
+        int f = any();
+        String of = "(" + a + ", " + b + ", " + c + ", " + d + ", " + e + ", " + f + ")";
+        due("step" + of, x.step(a, b), y.step(a, b));
+        due("wine" + of, x.wine(a, b), y.wine(a, b));
+        due("guest" + of, x.guest(a, b), y.guest(a, b));
+        due("glass" + of, x.glass(a, b), y.glass(a, b));
+        due("pour" + of, x.pour(a, b), y.pour(a, b));
+        due("water" + of, x.water(a), y.water(a));
+        due("walk" + of, x.walk(a, b), y.walk(a, b));
+        due("ball" + of, x.ball(a, b, c), y.ball(a, b, c));
+        due("served" + of, x.served(a, b, c, d), y.served(a, b, c, d));
+        due("row" + of, x.row(a, b, c, d, e, f), y.row(a, b, c, d, e, f));
+        due("couples" + of, x.couples(a), y.couples(a));
+        due("quarrel" + of, x.quarrel(a, b), y.quarrel(a, b));
+        due("found" + of, x.found(a), y.found(a));
+        due("see" + of, x.see(a, b, c), y.see(a, b, c));
+        due("read" + of, x.read(a), y.read(a));
+        due("dance" + of, x.dance(a, b), y.dance(a, b));
+        due("mark" + of, x.mark(a, b > 0), y.mark(a, b > 0));
+        due("count" + of, x.count(a), y.count(a));
+        due("best" + of, x.best(a), y.best(a));
+        if (x.count(3) <= 2) {
+            due("fewest" + of, x.fewest(a, b, c, d), y.fewest(a, b, c, d));
+        }
+        askSend(a);
     }
 
     private void call() {

@@ -8,6 +8,7 @@ public final class SeekingTest {
         fewest();
         fewestLimits();
         fewestKinds();
+        fewestAmongOthers();
         sending();
         sendingWrong();
         best();
@@ -108,6 +109,24 @@ public final class SeekingTest {
         fewestIs(x, 0, 2, 3, 0, 0, 1);
         x = Check.cellar(text + "pillar 3 4;guest g plain at 3 3 way 0 age 0;");
         fewestNone(x, 0, 3, 4);
+    }
+
+    /** What is asked in between changes no answer. */
+    private static void fewestAmongOthers() {
+        DanceWine x = Check.cellar(STEPPING + "wine one glasses 9 of a 1;wine turn glasses 9 of l 1;"
+                + "guest g plain at 3 3 way 0 age 0;guest k plain at 3 2 way 0 age 0;");
+        fewestIs(x, 0, 2, 4, 0, 1, 0);
+        fewestIs(x, 1, 2, 4, 0, 0, 1, 0);
+        fewestIs(x, 0, 2, 4, 0, 1, 0);
+        CHECK.due("served", x.served(0, 2, 4, 3), 1);
+        CHECK.due("fewest(0, 2, 4, 1)", x.fewest(0, 2, 4, 1), 1);
+        CHECK.due("row", x.row(0, 3, 6, 0, 0, 1), 0);
+        CHECK.due("fewest(0, 2, 4, 1)", x.fewest(0, 2, 4, 1), 1);
+        CHECK.due("couples", x.couples(1), 1);
+        CHECK.due("fewest(0, 2, 4, 0)", x.fewest(0, 2, 4, 0), 0);
+        Check.told(x, STEPPING + "wine one glasses 9 of h 1;wine turn glasses 9 of l 1;guest g plain at 3 3 way 0 age 0;");
+        fewestNone(x, 0, 2, 4);
+        fewestIs(x, 0, 1, 5, 0, 1, 0);
     }
 
     private static void sent(DanceWine x, int order, int want) {

@@ -142,6 +142,7 @@ public final class TellingTest {
         fault(4, "hall ^1 4;");
         fault(4, "hall ^9 9;");
         fault(4, "hall 8 ^0;");
+        fault(4, "hall 8 ^9;");
         fault(4, "hall 8 ^9999");
         fault(1, "hall 8 ^;");
         fault(1, "hall 8 8^");
@@ -301,6 +302,7 @@ public final class TellingTest {
 
     private static void tokens() {
         fine("hall 4 4;dance abcdefgh rest;");
+        fine("hall 4 4;dance aza rest;dance zzzzzzzz rest;wine z glasses 1 of zzzzzzzz 1 aza 1;");
         fault(1, "hall 4 4;dance ^abcdefghi rest;");
         fault(1, "hall 4 4;^pillars 1 1;");
         fault(1, "hall ^00004 4;");
