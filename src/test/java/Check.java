@@ -20,6 +20,20 @@ final class Check {
         due(call, got ? 1 : 0, want ? 1 : 0);
     }
 
+    void due(String call, String got, String want) {
+        asked++;
+        if (!got.equals(want)) {
+            wrong++;
+            System.out.println(test + ": " + call + " answered " + got + ", due is " + want);
+        }
+    }
+
+    /** Something else than an answer went wrong. */
+    void fail(String what) {
+        wrong++;
+        System.out.println(test + ": " + what);
+    }
+
     void end() {
         System.out.println(test + ": " + asked + " answers, " + wrong + " wrong");
         if (wrong != 0) {
