@@ -252,4 +252,49 @@ final class BallCases extends Cases {
         places(x, 0, 0, 28);
         places(x, 1, 0, 35);
     }
+
+    @Case(promise = 12, says = "all GUESTS at once: six, the last one, too")
+    static void sixAtBall() {
+        DanceWine x = cellar(CellarCases.full());
+        for (int g = 0; g < 6; g++) {
+            for (int n = 0; n <= g; n++) {
+                pour(x, g, n);
+            }
+        }
+        due("beats", x.ball(0, 0, -1), 6);
+        places(x, 0, 0, 8, 17, 26, 35, 44, 53);
+        places(x, 8, 0, 0, 1, 2, 3, 4, 5);
+        // the draws of the seed 0: 0 4 4 5 2 7 | 5 5 2 2 5 | 4 3 6 7 | 3 ..
+        int[] draws = draws(0, 21);
+        int[] cells = {0, 1, 2, 3, 4, 5};
+        int at = 0;
+        for (int beat = 0; beat < 6; beat++) {
+            for (int g = beat; g < 6; g++) {
+                cells[g] += draws[at++] >= 4 ? 8 : 0;
+            }
+        }
+        places(x, 4, 0, cells);
+    }
+
+    @Case(promise = 12, says = "BEATS: fewer again behind water")
+    static void fewerBeats() {
+        DanceWine x = cellar(LANE + "guest g plain at 0 0 way 0 age 0;");
+        pour(x, 0, 3, 0);
+        due("four", x.ball(0, 0, -1), 4);
+        x.water(0);
+        due("three", x.ball(0, 0, -1), 3);
+        x.water(0);
+        due("none", x.ball(0, 0, -1), 0);
+        due("at home", x.ball(0, 0, 0), 0);
+    }
+
+    @Case(promise = 12, says = "another GUEST is then: into the CELL 0, 0, into the CELL 7, 7; into one's own former CELL")
+    static void cornersAtBall() {
+        DanceWine x = cellar(LANE + "guest g plain at 1 0 way 3 age 0;guest i plain at 7 6 way 0 age 0;");
+        pour(x, 0, 0);
+        pour(x, 1, 0);
+        places(x, 0, 0, 0, 63);
+        pour(x, 0, 2, 2, 0);
+        places(x, 0, 0, 1, 63);
+    }
 }

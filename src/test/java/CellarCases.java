@@ -499,4 +499,65 @@ final class CellarCases extends Cases {
         due("no pillar", Check.told(x, "hall 5 4;guest g plain at 4 3 way 0 age 0;"), 0);
         due("nobody is seen there", x.read(1), -1);
     }
+
+    @Case(promise = 3, says = "of the text of a FAULT nothing is left: not in the CELLAR that is told next")
+    static void behindAFault() {
+        DanceWine x = new DanceWine();
+        due("fault", Check.told(x, "hall 6 6;pillar 2 2;carriage 3 3;dance d hop;dance e hop;wine w glasses 9 of d 4;"
+                + "guest g plain at 1 1 way 0 age 0;guest h old at 4 4 way 0 age 0;stagger 1;&") % 16, 1);
+        due("told", Check.told(x, "hall 6 6;dance d ahead;wine w glasses 2 of d 1;guest g plain at 2 1 way 0 age 5;"), 0);
+        due("counts", state(x), "6 6 1 1 1 2 0 0 0 0 | wine 2 1 0 | guest 0 10 0 5 0 0 10 0 | -1 -1");
+        pour(x, 0, 0);
+        due("no pillar, no law", x.walk(0, 0), 18);
+        due("guest cells are free", Check.told(x, "hall 6 6;pillar 1 1;pillar 4 4;pillar 2 2;pillar 3 3;"), 0);
+    }
+
+    @Case(promise = 3, says = "it is the CELLAR from then on: told again and again, each anew")
+    static void toldAgainAndAgain() {
+        DanceWine x = new DanceWine();
+        for (int n = 0; n < 3; n++) {
+            due("a full one", Check.told(x, "hall 6 6;pillar 2 2;carriage 3 3;dance d left;dance e hop;"
+                    + "wine w glasses 9 of d 4 e 4;guest g plain at 1 1 way 0 age 0;guest h old at 4 4 way 0 age 0;"
+                    + "stagger age=5;"), 0);
+            for (int k = 0; k < 2; k++) {
+                due("a small one", Check.told(x, "hall 6 6;dance d ahead;wine w glasses 2 of d 1;"
+                        + "guest g plain at 2 1 way 0 age 5;"), 0);
+                due("counts", state(x), "6 6 1 1 1 2 0 0 0 0 | wine 2 1 0 | guest 0 10 0 5 0 0 10 0 | -1 -1");
+                due("beyond its steps", x.step(0, 1), -1);
+                pour(x, 0, 0);
+                due("no pillar, no law", x.walk(0, 0), 18);
+            }
+        }
+    }
+
+    @Case(promise = 3, says = "the first wrong token: where ; or a WORD is missing, though a whole line follows")
+    static void lineWithinLine() {
+        fault(1, "hall 4 4 ^pillar 1 1;");
+        fault(1, "hall ^pillar 1 1;");
+        fault(1, "hall 4 ^dance d rest;");
+        fault(1, "hall 4 4;pillar ^pillar 1 1;");
+        fault(1, "hall 4 4;pillar 1 ^pillar 1 1;");
+        fault(1, "hall 4 4;pillar 1 1 ^pillar 2 2;");
+        fault(1, "hall 4 4;carriage 1 1 ^pillar 2 2;");
+        fault(1, "hall 4 4;carriage ^dance d rest;");
+        fault(1, "hall 4 4;dance ^dance d rest;");
+        fault(1, "hall 4 4;dance d ^dance e rest;");
+        fault(1, "hall 4 4;dance d rest ^dance e rest;");
+        String[] cut = {"wine", "wine w", "wine w glasses", "wine w glasses 1", "wine w glasses 1 of",
+            "wine w glasses 1 of a", "wine w glasses 1 of a 1", "guest", "guest g", "guest g old", "guest g old at",
+            "guest g old at 0", "guest g old at 0 0", "guest g old at 0 0 way", "guest g old at 0 0 way 0",
+            "guest g old at 0 0 way 0 age", "guest g old at 0 0 way 0 age 0", "stagger", "stagger 1", "stagger(1"};
+        for (String line : cut) {
+            fault(1, D + line + " ^dance e rest;");
+            fault(1, D + line + " ^pillar 9 9;");
+        }
+    }
+
+    @Case(promise = 3, says = "a NAME of no DANCE told: with six told; of one that the former CELLAR had")
+    static void partOfFormerDance() {
+        fault(2, full().replaceAll("wine wf .*?;", "") + "wine w glasses 1 of ^x 1;");
+        fault(2, full().replaceAll("wine wf .*?;", "") + "wine w glasses 1 of da 1 ^x 1;");
+        DanceWine x = cellar("hall 4 4;dance a rest;dance b rest;");
+        due("fault", Check.told(x, "hall 4 4;dance a rest;wine w glasses 1 of b 1;"), 2 + 16 * 42);
+    }
 }

@@ -77,6 +77,21 @@ final class CompanyCases extends Cases {
         due("two pairs", x.couples(0), 2);
     }
 
+    @Case(promise = 18, says = "COUPLES of a WINE: of each of six its own")
+    static void couplesOfSixWines() {
+        StringBuilder t = new StringBuilder("hall 8 2;dance a ahead;dance b rest;");
+        String[] parts = {"b 1", "a 1", "a 2", "a 3", "a 4", "a 4 b 1"};
+        for (int w = 0; w < 6; w++) {
+            t.append("wine w").append((char) ('a' + w)).append(" glasses 0 of ").append(parts[w]).append(';');
+        }
+        // 0, 0 to the east, 5, 0 to the west
+        DanceWine x = cellar(t + "guest g plain at 0 0 way 1 age 0;guest h plain at 5 0 way 3 age 0;");
+        int[] want = {0, 0, 1, 1, 0, 0};
+        for (int w = 0; w < 6; w++) {
+            due("couples(" + w + ")", x.couples(w), want[w]);
+        }
+    }
+
     // ---- promise 19
 
     private static boolean quarrel(String one, String other) {
@@ -116,6 +131,45 @@ final class CompanyCases extends Cases {
         quarrels("hop right", "ahead ahead", false);
         quarrels("left right", "right left", true);
         quarrels("left right rest", "right left rest", true);
+    }
+
+    @Case(promise = 19, says = "left in one and right in the other: each STEP against each")
+    static void quarrelEachStep() {
+        String[] steps = {"ahead", "hop", "left", "right", "rest"};
+        for (int a = 0; a < 5; a++) {
+            for (int b = 0; b < 5; b++) {
+                due(steps[a] + " / " + steps[b], quarrel(steps[a], steps[b]), a == 2 && b == 3 || a == 3 && b == 2);
+            }
+        }
+    }
+
+    @Case(promise = 19, says = "more than half: 48 of 96 is not, whatever WINE is told next")
+    static void quarrelHalfOfMost() {
+        String l = " left left left left left left left left;";
+        String r = " right right right right right right right right;";
+        String h = " left left left left rest rest rest rest;";
+        DanceWine x = cellar("hall 2 2;dance a" + l + "dance b" + l + "dance c" + l + "dance d" + r + "dance e" + r
+                + "dance f" + h + "wine w glasses 0 of d 4 e 4;wine v glasses 0 of a 2 b 2 f 4;"
+                + "wine u glasses 0 of a 4 f 4;");
+        due("48 of 64", x.quarrel(0, 1), true);
+        due("48 of 64", x.quarrel(0, 2), true);
+        x = cellar("hall 2 2;dance a" + l + "dance b" + r + "dance c" + h + "dance d rest rest rest rest rest rest rest rest;"
+                + "dance e" + r + "wine w glasses 0 of b 4 e 4 d 4;wine v glasses 0 of a 4 c 4 d 4;wine u glasses 0 of b 1;");
+        due("48 of 96", x.quarrel(0, 1), false);
+        due("48 of 96", x.quarrel(1, 0), false);
+    }
+
+    @Case(promise = 19, says = "as many as both have: what a former CELLAR had behind them does not count")
+    static void quarrelFormer() {
+        DanceWine x = new DanceWine();
+        for (int n = 0; n < 2; n++) {
+            due("told", Check.told(x, "hall 2 2;dance a left left;dance b right right;wine w glasses 0 of a 4;"
+                    + "wine v glasses 0 of b 4;"), 0);
+            due("all", x.quarrel(0, 1), true);
+        }
+        due("told", Check.told(x, "hall 2 2;dance a rest left;dance b rest right;wine w glasses 0 of a 1;"
+                + "wine v glasses 0 of b 1;"), 0);
+        due("1 of 2", x.quarrel(0, 1), false);
     }
 
     @Case(promise = 19, says = "false: the same, too")

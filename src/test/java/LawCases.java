@@ -146,6 +146,45 @@ final class LawCases extends Cases {
         fine(t.toString());
     }
 
+    @Case(promise = 3, says = "of a law with a FAULT nothing is left: not in the law that is told next")
+    static void behindAFault() {
+        String t = "hall 8 8;dance d ahead;wine w glasses 9 of d 1;guest g plain at 0 0 way 0 age 0;stagger ";
+        String[] wrong = {"not not not not not 1;", "((((1+2*3<4^;", "(1 and(2 or(3<4 x", "1+2*", "not not not not &", "(((((1"};
+        String[] laws = {"0;", "1;", "not not not not 1;", "((((0))));", "not 1;", "1-1;", "0 or 1;"};
+        boolean[] so = {false, true, true, false, false, false, true};
+        DanceWine x = new DanceWine();
+        for (int n = 0; n < wrong.length; n++) {
+            due(wrong[n], Check.told(x, t + wrong[n]) > 0, true);
+            int law = n % laws.length;
+            due(laws[law], Check.told(x, t + laws[law]), 0);
+            pour(x, 0, 0);
+            due("lost by " + laws[law], x.walk(0, 2), so[law] ? 1 : 0);
+        }
+        for (String law : wrong) {
+            for (int n = 0; n < laws.length; n++) {
+                DanceWine y = new DanceWine();
+                Check.told(y, t + law);
+                due(laws[n], Check.told(y, t + laws[n]), 0);
+                pour(y, 0, 0);
+                due("lost by " + laws[n] + " behind " + law, y.walk(0, 2), so[n] ? 1 : 0);
+            }
+        }
+    }
+
+    @Case(promise = 3, says = "a law told behind another: of the other nothing is left")
+    static void behindALaw() {
+        String t = "hall 8 8;dance d ahead;wine w glasses 9 of d 1;guest g plain at 0 0 way 0 age 0;";
+        DanceWine x = new DanceWine();
+        String[] laws = {"stagger not(1+2*3<4 and 5)or 6;", "stagger not(1+2*3<4 and 5)or 6;", "", "", "stagger 0;", "",
+            "stagger 1;", "stagger 0;", ""};
+        int[] lost = {1, 1, 0, 0, 0, 0, 1, 0, 0};
+        for (int n = 0; n < laws.length; n++) {
+            due(laws[n], Check.told(x, t + laws[n]), 0);
+            pour(x, 0, 0);
+            due("lost by " + laws[n], x.walk(0, 2), lost[n]);
+        }
+    }
+
     // ---- promise 11
 
     @Case(promise = 11, says = "and, or from the left: neither binds more than the other")

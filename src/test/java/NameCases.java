@@ -201,4 +201,19 @@ final class NameCases extends Cases {
         fault(3, "hall 4 4;dance d rest;dance ^d 4");
         fault(5, CellarCases.full() + "^dance da");
     }
+
+    @Case(promise = 3, says = "all else is none: each other sign where a line begins, a NAME, a STEP, a KIND is due, at the end")
+    static void otherSignsElsewhere() {
+        String[] ahead = {"", "hall 4 4;", "hall 4 4;dance ", "hall 4 4;dance d ", "hall 4 4;dance d rest",
+            "hall 4 4;dance d rest;wine w glasses 1 of ", "hall 4 4;guest g ", "hall 4 4;stagger "};
+        for (String text : ahead) {
+            for (char c = 33; c < 127; c++) {
+                boolean sort = c >= 'a' && c <= 'z' || c >= '0' && c <= '9';
+                if (!sort && "()<=+-*;".indexOf(c) < 0) {
+                    due(text + c, Check.told(new DanceWine(), text + c), 1 + 16 * text.length());
+                    due(text + c + ";", Check.told(new DanceWine(), text + c + ";"), 1 + 16 * text.length());
+                }
+            }
+        }
+    }
 }

@@ -250,4 +250,37 @@ final class ReadCases extends Cases {
         x.see(0, 5, 3);
         due("right hop", x.dance(2, 0), 16);
     }
+
+    @Case(promise = 22, says = "each GUEST SEEN: all six, the last one alone")
+    static void readSix() {
+        DanceWine x = cellar(CellarCases.full());
+        x.see(5, 5, 2);
+        due("the last alone", x.read(1), 1);
+        due("hop", x.dance(1, 0), 1);
+        for (int g = 0; g < 6; g++) {
+            due("see", x.see(g, g, 1), true);
+        }
+        due("all", x.read(1), 1);
+        due("ahead", x.dance(1, 0), 0);
+        x.see(5, 5, 2);
+        due("but the last", x.read(1), 0);
+        x.see(5, 5, 1);
+        x.see(0, 0, 0);
+        due("but the first", x.read(1), 0);
+        due("told anew with fewer", Check.told(x, "hall 8 8;guest g plain at 0 0 way 0 age 0;"), 0);
+        x.see(0, 0, 1);
+        due("one", x.read(1), 1);
+    }
+
+    @Case(promise = 22, says = "asked in turn: 5 STEPS, then 1, then 5 again")
+    static void readInTurn() {
+        DanceWine x = cellar(T);
+        x.see(0, 0, 0);
+        int five = x.read(5);
+        due("the first", x.dance(5, 0) < x.dance(5, 1), true);
+        due("one", x.read(1), 3);
+        due("five again", x.read(5), five);
+        due("beyond", x.dance(5, five), -1);
+        due("the last", x.dance(5, five - 1), 3124);
+    }
 }

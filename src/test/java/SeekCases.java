@@ -329,4 +329,129 @@ final class SeekCases extends Cases {
         row(x, 3, 3, 0, 14, 1, 1, 1);
         due("elsewhere", x.served(0, 3, 4, 0), 0);
     }
+
+    @Case(promise = 13, says = "a GUEST: each of six by itself, from its own CELL")
+    static void fewestOfSix() {
+        DanceWine x = cellar(CellarCases.full());
+        for (int g = 0; g < 6; g++) {
+            fewest(x, g, g, 0);
+            fewest(x, g, g, 2, 0, 0);
+            fewestNone(x, g, (g + 1) % 6, 2);
+        }
+        due("one after another to one CELL", x.fewest(0, 3, 2, -1), -1);
+        due("one after another to one CELL", x.fewest(3, 3, 2, -1), 2);
+        due("one after another to one CELL", x.fewest(5, 3, 2, -1), -1);
+        due("one after another to one CELL", x.fewest(3, 3, 2, 1), 0);
+        due("one after another to one CELL", x.fewest(2, 3, 2, 1), -1);
+    }
+
+    @Case(promise = 13, says = "a CELL: the far corner of the largest hall, from it and to it, each way")
+    static void fewestCorner() {
+        String t = "hall 8 8;dance a ahead;dance l left;wine w glasses 9 of a 1;wine v glasses 9 of l 1;";
+        for (int way = 0; way < 4; way++) {
+            DanceWine x = cellar(t + "guest g plain at 7 7 way " + way + " age 0;");
+            fewest(x, 0, 7, 7);
+            int turns = (way + 2) % 4;
+            due("south, way " + way, x.fewest(0, 7, 6, -1), turns + 1);
+            due("the last, way " + way, x.fewest(0, 7, 6, turns), 0);
+        }
+        DanceWine x = cellar(t + "guest g plain at 6 7 way 1 age 0;guest h plain at 7 6 way 0 age 0;");
+        fewest(x, 0, 7, 7, 0);
+        fewest(x, 1, 7, 7, 0);
+    }
+
+    @Case(promise = 13, says = "the longest WINES: 96 STEPS, six glasses")
+    static void fewestLongest() {
+        String rests = " rest rest rest rest rest rest rest";
+        DanceWine x = cellar("hall 8 8;dance a" + rests + " rest;dance b" + rests + " rest;dance c" + rests + " ahead;"
+                + "wine w glasses 9 of a 4 b 4 c 4;guest g plain at 0 0 way 0 age 0;stagger step<95;");
+        fewest(x, 0, 0, 6, 0, 0, 0, 0, 0, 0);
+        fewestNone(x, 0, 0, 7);
+        due("served", x.served(0, 0, 3, 0), 1);
+        x = cellar("hall 8 8;dance a" + rests + " rest;dance b" + rests + " rest;dance c" + rests + " ahead;"
+                + "wine w glasses 9 of a 4 b 4 c 4;guest g plain at 0 0 way 0 age 0;stagger not(glass=5 and step=95);");
+        fewest(x, 0, 0, 1, 0, 0, 0, 0, 0, 0);
+    }
+
+    @Case(promise = 13, says = "of which that many are there: six WINES that would reach it, none with enough")
+    static void fewestNotEnough() {
+        StringBuilder t = new StringBuilder("hall 8 8;dance a ahead;dance b left;");
+        for (char c = 'p'; c < 'v'; c++) {
+            t.append("wine ").append(c).append(" glasses ").append(c == 'u' ? 1 : 2).append(" of ")
+                    .append(c == 'u' ? 'a' : 'b').append(" 4;");
+        }
+        // each wine but the last turns all round
+        DanceWine x = cellar(t + "guest g plain at 0 0 way 0 age 0;stagger step;");
+        fewest(x, 0, 0, 1, 5);
+        fewestNone(x, 0, 0, 2);
+        due("not twice", x.fewest(0, 1, 1, -1), -1);
+        DanceWine y = cellar(t + "guest g plain at 0 0 way 0 age 0;");
+        fewest(y, 0, 0, 4, 5);
+        fewestNone(y, 0, 0, 7);
+        // told anew with fewer wines: the former ones are not there
+        due("told", Check.told(y, "hall 8 8;dance a ahead;wine w glasses 1 of a 4;guest g plain at 0 0 way 0 age 0;"), 0);
+        fewest(y, 0, 0, 4, 0);
+        fewestNone(y, 0, 0, 7);
+    }
+
+    @Case(promise = 13, says = "asked in between: served, row, another CELL, another GUEST change no answer")
+    static void fewestInBetween() {
+        DanceWine x = cellar(D + "wine w glasses 9 of a 1;wine v glasses 9 of l 1;" + G
+                + "guest k plain at 3 2 way 0 age 0;");
+        due("how many", x.fewest(0, 2, 4, -1), 3);
+        due("served", x.served(0, 3, 3, 3), 1);
+        due("the second", x.fewest(0, 2, 4, 1), 1);
+        due("row", x.row(0, 3, 6, 0, 0, 0), 0);
+        due("the second", x.fewest(0, 2, 4, 1), 1);
+        due("row", x.row(0, 3, 3, 1, 0, 2), 1);
+        due("the first", x.fewest(0, 2, 4, 0), 0);
+        due("of another", x.fewest(1, 2, 4, -1), 4);
+        due("of the one", x.fewest(0, 2, 4, -1), 3);
+        due("another cell", x.fewest(0, 3, 4, -1), 1);
+        due("the cell", x.fewest(0, 2, 4, 2), 0);
+    }
+
+    @Case(promise = 16, says = "six WINES that differ, each GUEST of six: rows of any of them")
+    static void servedSixWines() {
+        StringBuilder t = new StringBuilder("hall 8 8;dance a ahead;dance b hop;dance c left;dance d right;dance e rest;");
+        String[] parts = {"a 1", "b 1", "c 1", "d 1", "e 1", "a 3"};
+        for (int w = 0; w < 6; w++) {
+            t.append("wine w").append((char) ('a' + w)).append(" glasses 0 of ").append(parts[w]).append(';');
+        }
+        DanceWine x = cellar(t + "guest g plain at 0 0 way 0 age 0;guest h plain at 7 0 way 0 age 0;");
+        // 3 3; 1 2 3 in any order; 2 2 2; 3 3 0 in any order; 3 3 and a hop beyond the end
+        due("six on", x.served(0, 0, 6, 0), 1 + 6 + 1 + 3 + 1);
+        for (int g = 0; g < 2; g++) {
+            due("seven on", x.served(g, g * 7, 7, 0), 9);
+        }
+        row(x, 0, 7, 0, 0, 0, 5, 5);
+        row(x, 0, 7, 0, 1, 1, 1, 5);
+        row(x, 0, 7, 0, 2, 1, 5, 1);
+        row(x, 0, 7, 0, 3, 1, 5, 5);
+        row(x, 0, 7, 0, 4, 5, 0, 5);
+        row(x, 0, 7, 0, 5, 5, 1, 1);
+        row(x, 0, 7, 0, 6, 5, 1, 5);
+        row(x, 0, 7, 0, 7, 5, 5, 0);
+        row(x, 0, 7, 0, 8, 5, 5, 5);
+    }
+
+    @Case(promise = 16, says = "a CELL with a way: the far corner of the largest hall, each way")
+    static void servedCorner() {
+        for (int way = 0; way < 4; way++) {
+            DanceWine x = cellar("hall 8 8;dance l left;wine w glasses 0 of l 1;guest g plain at 7 7 way " + way + " age 0;");
+            for (int to = 0; to < 4; to++) {
+                due("from " + way + " to " + to, x.served(0, 7, 7, to), 1);
+            }
+        }
+    }
+
+    @Case(promise = 17, says = "the i-th: of each of six GUESTS")
+    static void rowOfSix() {
+        DanceWine x = cellar(CellarCases.full());
+        for (int g = 0; g < 6; g++) {
+            due("served", x.served(g, g, 1, 0), 6);
+            due("row", x.row(g, g, 1, 0, 5, 0), 5);
+            due("of another's cell", x.row(g, (g + 1) % 6, 1, 0, 0, -1), -1);
+        }
+    }
 }

@@ -271,4 +271,97 @@ final class SendCases extends Cases {
         due("order", x.best(1), 0012);
         sent(x, 0012, 7);
     }
+
+    @Case(promise = 14, says = "all others stand: the GUEST 0 in the way of another, told there or come there")
+    static void guestNoughtInTheWay() {
+        DanceWine x = cellar("hall 5 2;carriage 3 0;dance a ahead;wine w glasses 9 of a 2;"
+                + "guest g plain at 2 0 way 1 age 0;guest h plain at 1 0 way 1 age 0;");
+        pour(x, 1, 0);
+        sent(x, 001, 0);
+        sent(x, 010, 0);
+        x.water(1);
+        pour(x, 0, 0);
+        sent(x, 010, 0);
+        x.water(0);
+        due("no one", x.best(0), 0);
+        x = cellar("hall 5 2;carriage 3 0;dance a ahead;wine w glasses 9 of a 2;wine v glasses 9 of a 1;"
+                + "guest g plain at 2 1 way 2 age 0;guest h plain at 1 0 way 1 age 0;");
+        pour(x, 0, 1);
+        pour(x, 1, 0);
+        sent(x, 010, 0);
+        sent(x, 001, 2);
+    }
+
+    @Case(promise = 14, says = "one stays, and goes on with the next STEP: blocked once, gone at the end")
+    static void blockedAndOn() {
+        // blocked by h in the first step, then right and ahead
+        DanceWine x = cellar("hall 5 5;carriage 1 0;dance a ahead right ahead;wine w glasses 9 of a 1;"
+                + "guest g plain at 0 0 way 0 age 0;guest h waiter at 0 1 way 0 age 0;");
+        pour(x, 0, 0);
+        due("by itself it ends elsewhere", x.walk(0, 0), 9);
+        sent(x, 010, 1);
+        sent(x, 001, 1);
+        due("best", x.best(0), 1);
+        due("order", x.best(1), 010);
+    }
+
+    @Case(promise = 14, says = "one stays: where one who was blocked stands then, others can't come")
+    static void blockedStands() {
+        // g is blocked by i and stays at 1, 1, in h's way
+        String t = "hall 5 5;carriage 3 1;dance a ahead;wine w glasses 9 of a 3;guest g plain at 1 1 way 0 age 0;"
+                + "guest h plain at 0 1 way 1 age 0;";
+        DanceWine x = cellar(t + "guest i waiter at 1 2 way 0 age 0;");
+        pour(x, 0, 0);
+        pour(x, 1, 0);
+        sent(x, 0210, 0);
+        x = cellar(t + "guest i waiter at 4 4 way 0 age 0;");
+        pour(x, 0, 0);
+        pour(x, 1, 0);
+        sent(x, 0210, 2);
+        sent(x, 0201, 0);
+    }
+
+    @Case(promise = 14, says = "each takes its WALK: 576 STEPS with another in the way; fewer again behind water")
+    static void longestWalk() {
+        String on = " ahead ahead ahead ahead ahead ahead ahead ahead;";
+        DanceWine x = cellar("hall 8 2;carriage 5 0;dance a" + on + "dance b" + on + "dance c" + on
+                + "dance d ahead;wine w glasses 9 of a 4 b 4 c 4;wine v glasses 9 of d 2;"
+                + "guest g plain at 3 0 way 1 age 0;guest h waiter at 6 0 way 0 age 0;");
+        pour(x, 0, 0, 0, 0, 0, 0, 0);
+        sent(x, 010, 1);
+        // i is in g's way, so g stays and turns; ahead is the second glass
+        x = cellar("hall 8 2;carriage 3 1;dance d ahead right;dance e ahead;wine w glasses 9 of d 1;wine v glasses 9 of e 1;"
+                + "guest g plain at 3 1 way 1 age 0;guest i waiter at 4 1 way 0 age 0;");
+        pour(x, 0, 0, 1);
+        due("by itself", x.walk(0, 0), 4);
+        sent(x, 010, 0);
+        x.water(0);
+        sent(x, 010, 1);
+    }
+
+    @Case(promise = 15, says = "BEST: each order is tried from where all were told")
+    static void bestEachFromHome() {
+        // g walks into h's way and stays there: h first
+        DanceWine x = cellar("hall 5 5;carriage 3 0;dance a ahead;wine w glasses 9 of a 1;wine v glasses 9 of a 3;"
+                + "guest g plain at 2 1 way 2 age 0;guest h plain at 0 0 way 1 age 0;");
+        pour(x, 0, 0);
+        pour(x, 1, 1);
+        due("one", x.best(0), 1);
+        due("h, g", x.best(1), 001);
+        sent(x, 010, 0);
+        sent(x, 001, 2);
+    }
+
+    @Case(promise = 15, says = "BEST: who would be gone stands nowhere; in the next order he stands where he was told")
+    static void bestGoneComesBack() {
+        // g is gone first and h can't pass f; only f, h, g lets all but f go
+        DanceWine x = cellar("hall 8 2;carriage 4 0;dance a ahead;wine w glasses 9 of a 1;wine v glasses 9 of a 3;"
+                + "guest g plain at 3 0 way 1 age 0;guest h plain at 1 0 way 1 age 0;guest f plain at 2 0 way 0 age 0;");
+        pour(x, 0, 0);
+        pour(x, 1, 1);
+        pour(x, 2, 0);
+        due("two", x.best(0), 2);
+        due("g, f, h", x.best(1), 0120);
+        sent(x, 0120, 3);
+    }
 }

@@ -156,6 +156,31 @@ final class UndoCases extends Cases {
         due("a seventh", x.pour(0, 0), false);
     }
 
+    @Case(promise = 10, says = "water undone: of each of six GUESTS its own glass")
+    static void waterUndoneOfSix() {
+        DanceWine x = cellar(CellarCases.full());
+        for (int g = 0; g < 6; g++) {
+            pour(x, g, g, 5 - g);
+        }
+        for (int g = 0; g < 6; g++) {
+            due("water", x.water(g), true);
+        }
+        for (int n = 0; n < 6; n++) {
+            due("undo", x.undo(), true);
+        }
+        for (int g = 0; g < 6; g++) {
+            due("glass(" + g + ", 0)", x.glass(g, 0), g);
+            due("glass(" + g + ", 1)", x.glass(g, 1), 5 - g);
+            due("bottle " + g, x.wine(g, 0), 97);
+        }
+        // the last glasses were of 5 0 4 1 3 2
+        int[] back = {0, 5, 1, 4, 2, 3};
+        for (int wine : back) {
+            due("undo a glass", x.undo(), true);
+            due("bottle " + wine, x.wine(wine, 0), 98);
+        }
+    }
+
     // ---- promise 24
 
     @Case(promise = 24, says = "MARKS 0 to 3: each is one of its own")
@@ -212,6 +237,8 @@ final class UndoCases extends Cases {
         due("read", x.read(1), 1);
         x.water(0);
         x.water(0);
+        pour(x, 0, 0, 0, 0);
+        x.water(1);
         pour(x, 1, 0, 0);
         x.see(0, 0, 0);
         x.see(1, 0, 0);
@@ -277,5 +304,54 @@ final class UndoCases extends Cases {
         due("still there", x.mark(3, true), true);
         due("told", Check.told(x, T), 0);
         due("gone", x.mark(3, true), false);
+    }
+
+    @Case(promise = 24, says = "they hold glasses, what is drunk, what is SEEN: of all six WINES and six GUESTS")
+    static void marksHoldSix() {
+        DanceWine x = cellar(CellarCases.full());
+        for (int g = 0; g < 6; g++) {
+            pour(x, g, g, 5 - g, 1);
+            x.see(g, g, 1);
+        }
+        due("read", x.read(1), 1);
+        due("lay", x.mark(2, false), true);
+        for (int g = 0; g < 6; g++) {
+            x.water(g);
+            x.water(g);
+            x.water(g);
+            pour(x, g, 2, 2);
+            x.see(g, -1, 0);
+        }
+        due("back", x.mark(2, true), true);
+        for (int g = 0; g < 6; g++) {
+            due("glasses of " + g, x.guest(g, 4), 3);
+            due("glass(" + g + ", 0)", x.glass(g, 0), g);
+            due("glass(" + g + ", 1)", x.glass(g, 1), 5 - g);
+            due("glass(" + g + ", 2)", x.glass(g, 2), 1);
+            due("bottle " + g, x.wine(g, 0), g == 1 ? 91 : 97);
+            due("walk of " + g, x.walk(g, 0), 24 + g);
+        }
+        due("seen", x.count(6), 6);
+        due("where", x.read(1), 1);
+    }
+
+    @Case(promise = 24, says = "what is drunk: other glasses in the place of those that were")
+    static void otherGlasses() {
+        DanceWine x = cellar(CellarCases.full());
+        pour(x, 5, 0, 1, 2, 3, 4, 5);
+        x.mark(0, false);
+        for (int n = 0; n < 6; n++) {
+            x.water(5);
+        }
+        pour(x, 5, 5, 4, 3, 2, 1, 0);
+        x.mark(1, false);
+        for (int n = 0; n < 2; n++) {
+            for (int m = 0; m < 2; m++) {
+                due("back", x.mark(m, true), true);
+                for (int i = 0; i < 6; i++) {
+                    due("glass " + i + " at mark " + m, x.glass(5, i), m == 0 ? i : 5 - i);
+                }
+            }
+        }
     }
 }
