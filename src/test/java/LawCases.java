@@ -176,8 +176,8 @@ final class LawCases extends Cases {
         String t = "hall 8 8;dance d ahead;wine w glasses 9 of d 1;guest g plain at 0 0 way 0 age 0;";
         DanceWine x = new DanceWine();
         String[] laws = {"stagger not(1+2*3<4 and 5)or 6;", "stagger not(1+2*3<4 and 5)or 6;", "", "", "stagger 0;", "",
-            "stagger 1;", "stagger 0;", ""};
-        int[] lost = {1, 1, 0, 0, 0, 0, 1, 0, 0};
+            "stagger 1;", "stagger 0;", "", "stagger 22;", "stagger 22;", "stagger 1;", "stagger 1;"};
+        int[] lost = {1, 1, 0, 0, 0, 0, 1, 0, 0, 1, 1, 1, 1};
         for (int n = 0; n < laws.length; n++) {
             due(laws[n], Check.told(x, t + laws[n]), 0);
             pour(x, 0, 0);

@@ -319,7 +319,7 @@ final class UndoCases extends Cases {
             x.water(g);
             x.water(g);
             x.water(g);
-            pour(x, g, 2, 2);
+            pour(x, g, 2, 5 - g);
             x.see(g, -1, 0);
         }
         due("back", x.mark(2, true), true);
